@@ -42,7 +42,7 @@ public final class RoomTest {
             x.add(t, 0, 7, 1);
             x.commit(t);
         }
-        for (int i = 0; i < 60; i++) {
+        for (int i = 0; i < 59; i++) {
             x.all(500);
         }
         check.due("COMMITS", x.count(7), 150);
@@ -55,8 +55,7 @@ public final class RoomTest {
         for (int s = 0; s < 4; s++) {
             x.thing(s, false);
         }
-        int t = 0;
-        for (; t < 100; t++) {
+        for (int t = 0; t < 100; t++) {
             x.begin(t % 4);
             for (int s = 1; s < 4; s++) {
                 x.write(t, (t + s) % 4, t);
