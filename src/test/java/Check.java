@@ -7,10 +7,10 @@ final class Check {
     private int wrong = 0;
     private int looked = 0;
 
-    /** What follows looks at this sentence of a promise, or of the part 'Terms' (promise 0). */
+    /** What follows looks at this sentence of a promise, or (promise 0) of the document's parts ahead of them. */
     void sentence(int promise, String words) {
         named[promise] = true;
-        sentence = (promise == 0 ? "Terms" : "promise " + promise) + " '" + words + "': ";
+        sentence = (promise == 0 ? "ahead of the promises" : "promise " + promise) + " '" + words + "': ";
     }
 
     void due(String call, long got, long want) {

@@ -11,6 +11,7 @@ import java.util.List;
 import java.util.Map;
 import java.util.Set;
 import java.util.TreeMap;
+import java.util.TreeSet;
 import java.util.regex.Matcher;
 import java.util.regex.Pattern;
 
@@ -19,9 +20,11 @@ public final class SourceRulesTest {
     private static final String[] RULED_OUT = {
         "throw", "throws", "try", "catch", "finally", "synchronized", "assert", "package", "protected", "hashCode",
         "toString", "\\w+Exact", "random", "System", "Thread", "double", "float", "Object", "volatile", "native",
+        "var", "transient", "strictfp",
     };
     private static final Set<String> LIBRARY = Set.of("add", "get", "set", "remove", "size", "isEmpty", "clear", "clone",
         "fill", "copyOf", "copyOfRange", "min", "max", "abs");
+    private static final Set<String> LIBRARY_TYPES = Set.of("ArrayList", "Arrays");
     private static final int MOST_LINES = 60, MOST_PARAMETERS = 7, MOST_FIELDS = 20, MOST_CLASSES = 12, DEEPEST = 8;
     private static final Pattern HEAD = Pattern.compile("^( {4}| {8})(public|private) (?:static )?(?:[\\w\\[\\]<>]+ )?(\\w+)\\([^;=]*\\{$");
     private static final Check check = new Check();
@@ -43,6 +46,10 @@ public final class SourceRulesTest {
         for (Class<?> c : classes) {
             members(c);
         }
+        types(code, classes);
+        nothingThatCouldThrow(code);
+        loops(code);
+        objects(methods);
         check.end();
     }
 
@@ -57,6 +64,70 @@ public final class SourceRulesTest {
         while (imports.find()) {
             check.holds("import " + imports.group(1), imports.group(1).matches("java\\.util\\.(ArrayList|List|Arrays)"));
         }
+    }
+
+    /** Rules 2, 3 and 10: own classes, the lists' class, constants; no local or anonymous class, no texts. */
+    private static void types(String code, List<Class<?>> classes) {
+        Set<String> own = new HashSet<>();
+        for (Class<?> c : classes) {
+            own.add(c.getSimpleName());
+        }
+        Matcher word = Pattern.compile("\\b[A-Z]\\w*\\b").matcher(code);
+        while (word.find()) {
+            boolean constant = word.group().matches("[A-Z]+(_[A-Z]+)*");
+            check.holds("rule 3: " + word.group(),
+                constant || own.contains(word.group()) || LIBRARY_TYPES.contains(word.group()));
+        }
+        check.due("rule 2: no class but those inside", howOften("\\bclass\\b", code), classes.size());
+        check.due("rule 2: each of them static", howOften("private static final class ", code), classes.size() - 1);
+        check.due("rule 2: no anonymous class", howOften("\\bnew [\\w<>]+\\([^;]*\\)\\s*\\{", code), 0);
+        check.due("rule 3: no array of arrays", howOften("\\]\\s*\\[", code), 0);
+        check.due("rule 10: no text", howOften("[\"']", code), 0);
+    }
+
+    /** Rules 6 and 7: what is not there at all needs no test ahead of it. */
+    private static void nothingThatCouldThrow(String code) {
+        check.due("rule 7: no divisor", howOften("[/%]", code), 0);
+        check.due("rule 6: no cast", howOften("\\((int|long|short|byte|char|[A-Z]\\w*)(\\[\\])?\\)\\s*[\\w(]", code), 0);
+        Matcher made = Pattern.compile("\\bnew \\w+\\[([^\\]]*)\\]").matcher(code);
+        while (made.find()) {
+            check.holds("rule 7: an array's length is of constants: " + made.group(1),
+                made.group(1).matches("[A-Z_]+( \\* [A-Z_]+)*"));
+        }
+    }
+
+    /** Rule 9: each loop is a counter against a bound. */
+    private static void loops(String code) {
+        check.due("rule 9: no while, no do", howOften("\\b(while|do)\\b", code), 0);
+        Matcher loop = Pattern.compile("\\bfor \\((.*)\\) \\{").matcher(code);
+        int found = 0;
+        while (loop.find()) {
+            found++;
+            check.holds("rule 9: " + loop.group(1), loop.group(1).matches(
+                "int (\\w+) = (?:0; \\1 < [\\w.()]+; \\1\\+\\+|[\\w.()]+ - 1; \\1 >= 0; \\1--)"));
+        }
+        check.due("rule 9: all loops are found", howOften("\\bfor\\b", code), found);
+    }
+
+    /** Rule 12: what a call makes is one thing, one transaction or the messages that it sends. */
+    private static void objects(Map<String, String> methods) {
+        Set<String> makers = new TreeSet<>();
+        for (Map.Entry<String, String> m : methods.entrySet()) {
+            if (howOften("\\bnew\\b|\\bclone\\(", m.getValue()) > 0) {
+                makers.add(m.getKey());
+            }
+        }
+        check.holds("rule 12: objects are made by " + makers,
+            makers.equals(Set.of("FarStore", "Transaction", "begin", "post", "thing")));
+    }
+
+    private static int howOften(String pattern, String code) {
+        int many = 0;
+        Matcher found = Pattern.compile(pattern).matcher(code);
+        while (found.find()) {
+            many++;
+        }
+        return many;
     }
 
     /** Each method's and constructor's text, by its name; a name stands for one method alone. */
